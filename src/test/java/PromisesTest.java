@@ -1062,6 +1062,23 @@ public final class PromisesTest {
         six.joins(1, 0, 5, 10);
         is("fewer by another one", six.loop(1, 0), 4);
         rowIs("fewer by another one", six, 0, 3, 2, 6);
+        HeatPinch ten = ringOfTen();
+        is("ten", ten.loop(1, 9), 10);
+        rowIs("ten", ten, 9, 0, 1, 2, 3, 4, 5, 6, 7, 8);
+        is("ten", ten.loop(1, 0), 10);
+        rowIs("ten", ten, 0, 9, 8, 7, 6, 5, 4, 3, 2, 1);
+        is("breaks of ten", ten.breaks(1, 9), 5);
+        same("breaks of ten", matches(ten), "1:0+5*20 1:1+6*20 1:2+7*20 1:3+8*20 1:4+9*20");
+    }
+
+    /** Hot stream k is joined to the cold ones 5 + k and 6 + k, the last one to 5 again. */
+    private static HeatPinch ringOfTen() {
+        HeatPinch x = plant(0, "h100-50*4,h100-50*4,h100-50*4,h100-50*4,h100-50*4,"
+                + "c0-40*4,c0-40*4,c0-40*4,c0-40*4,c0-40*4");
+        for (int k = 0; k < 10; k++) {
+            is("match " + k, x.joins(1, k / 2, 5 + (k + 1) / 2 % 5, 10), k);
+        }
+        return x;
     }
 
     private static void breaks() {
