@@ -269,9 +269,13 @@ public final class PromisesTest {
         is("*99x", read("h1-0*99x"), -7);
         is("*210", read("h1-0*210"), -8);
         is("*000", read("h1-0*000"), -8);
+        is("h0100", read("h0100-5*1"), -5);
+        is("h10-0005", read("h10-0005*1"), -8);
+        is("*010", read("h1-0*010"), -8);
         is("second wrong", read("h1-0*1,c5-5*1"), -1 - 10);
         is("sign / (ahead of 0)", read("h/-0*1"), -2);
         is("sign : (behind 9)", read("h:-0*1"), -2);
+        cutTexts();
         HeatPinch x = plant(FOUR);
         x.fuel();
         x.joins(0, 0, 3, 5);
@@ -288,6 +292,18 @@ public final class PromisesTest {
         rowIs("the row stays", x, 475, 475);
         is("streams of no text", x.streams(), 0);
         is("no streams", x.count(0), 0);
+    }
+
+    /** Signs behind the end still lie there, but do not count. */
+    private static void cutTexts() {
+        String text = "h500-100*12,c0-90*3";
+        for (int n = 1; n < text.length(); n++) {
+            HeatPinch x = new HeatPinch();
+            put(x, text);
+            x.end(n);
+            boolean whole = n == 10 || n == 11;
+            is(n + " signs", x.streams(), whole ? 1 : -1 - n);
+        }
     }
 
     private static void sets() {
@@ -319,6 +335,9 @@ public final class PromisesTest {
         is("TO then", x.stream(0, 2), 0);
         is("CAPACITY", x.sets(0, 2, 20), 6);
         is("heat then", x.stream(0, 4), 10000);
+        is("CAPACITY 1", x.sets(0, 2, 1), 20);
+        is("FROM 0 of a cold one", x.sets(2, 0, 0), 20);
+        is("TO 500 of a cold one", x.sets(2, 1, 500), 135);
         is("cold FROM", x.sets(3, 0, 139), 80);
         is("cold heat then", x.stream(3, 4), 8);
     }
@@ -458,6 +477,7 @@ public final class PromisesTest {
 
     private static void pinch() {
         HeatPinch x = plant(FOUR);
+        x.fuel();
         is("pinch", x.pinch(), 1080);
         rowIs("pinch", x, 1080);
         HeatPinch none = new HeatPinch();
@@ -545,6 +565,9 @@ public final class PromisesTest {
         refused("greatest", x, () -> x.level(false, GREATEST), -2);
         refused("0", x, () -> x.level(true, 0), -1);
         refused("least", x, () -> x.level(true, LEAST), -1);
+        HeatPinch top = plant("h500-490*2,h400-0*1");
+        is("from 500", top.level(true, 1), 0);
+        rowIs("from 500", top, 999, 2);
         HeatPinch apart = plant("h100-90*2,h50-0*3,c1-2*1");
         is("the greatest such", apart.level(true, 20), 0);
         rowIs("the greatest such", apart, 90, 1);
@@ -645,6 +668,7 @@ public final class PromisesTest {
 
     private static void dearest() {
         HeatPinch x = plant(FOUR);
+        x.fuel();
         is("dearest", x.dearest(), 2);
         rowIs("dearest", x, 0);
         is("FUEL stays", x.fuel(), 40);
@@ -687,6 +711,15 @@ public final class PromisesTest {
         twice.sets(3, 2, 5);
         is("as great is enough", twice.arrive(0), 2);
         rowIs("as great is enough", twice, 2, 1, 1);
+        HeatPinch great = plant(0, "h200-100*20,c100-200*19,c100-200*2");
+        is("19 is not enough for 20", great.arrive(0), 1);
+        rowIs("19 is not enough for 20", great, 2, 1, 0);
+        great.sets(1, 2, 20);
+        is("20 is enough for 20", great.arrive(0), 1);
+        rowIs("20 is enough for 20", great, 2, 1, 1);
+        HeatPinch small = plant(0, "h200-100*1,h200-100*1,c100-200*3");
+        is("two small ones for one", small.arrive(0), 2);
+        rowIs("two small ones for one", small, 1, 0, 0);
         HeatPinch far = plant(0, "h200-100*5,c100-200*7,c150-160*9");
         is("one that is not near", far.arrive(0), 1);
         rowIs("one that is not near", far, 1, 1, 1);
